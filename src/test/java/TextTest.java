@@ -89,7 +89,12 @@ public final class TextTest {
         fault("w1=50", 4);
         fault("w1=400", 5);
         fault("w19=39;w20=3", 9);
+        fault("k", 1);
         fault("k1", 2);
+        fault("k01", 2);
+        fault("k19.0", NONE);
+        fault("k20", 2);
+        fault("k20.0", 2);
         fault("k1=", 2);
         fault("k1.", 3);
         fault("k1.0", NONE);
@@ -189,6 +194,44 @@ public final class TextTest {
         due.same("15 damaged(100)", disc.damaged(100), 0);
     }
 
+    private static void sessionRow(WriteOnceDisc disc, int session, int[] want) {
+        for (int what = 0; what < want.length; what++) {
+            due.same("15 session(" + session + ", " + what + ")", disc.session(session, what), want[what]);
+        }
+    }
+
+    /** A state that was taken back leaves nothing behind in the ones that are recorded in its place. */
+    private static void undoAndGoOn() {
+        WriteOnceDisc disc = new WriteOnceDisc();
+        put(disc, "w0=2;c;b1;w1=1;w2=1");
+        disc.begin(0);
+        disc.run();
+        disc.damage(5);
+        disc.damage(6);
+        sessionRow(disc, 1, new int[] {0, 9, 6, 4, 3, 3, 0, 2});
+        disc.undo();
+        disc.undo();
+        due.same("15 undo()", disc.undo(), 1);
+        due.same("15 sessions()", disc.sessions(), 1);
+        due.same("15 versions(2)", disc.versions(2), 0);
+        disc.undo();
+        disc.set(0, 7);
+        disc.set(1, 5);
+        put(disc, "b0;w3=5;c;b0");
+        disc.run();
+        disc.damage(7);
+        sessionRow(disc, 0, new int[] {1, 0, 17, 7, 5, 1, 1, 1});
+        sessionRow(disc, 1, new int[] {0, 17, 7, 7, 5, 0, 0, 0});
+        disc.write(4, 2);
+        due.same("15 undo()", disc.undo(), 3);
+        due.same("15 entry(1, 4, 0)", disc.entry(1, 4, 0), NONE);
+        sessionRow(disc, 0, new int[] {1, 0, 17, 7, 5, 1, 1, 1});
+        sessionRow(disc, 1, new int[] {0, 17, 7, 7, 5, 0, 0, 0});
+        due.same("15 undo()", disc.undo(), 2);
+        sessionRow(disc, 1, new int[] {0, 17, 7, 7, 5, 0, 0, 0});
+        due.same("15 entry(0, 3, 1)", disc.entry(0, 3, 1), 5);
+    }
+
     public static void main(String[] args) {
         append();
         faults();
@@ -197,6 +240,7 @@ public final class TextTest {
         run();
         undo();
         manyUndos();
+        undoAndGoOn();
         due.end();
     }
 }
