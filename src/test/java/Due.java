@@ -16,6 +16,13 @@ final class Due {
         }
     }
 
+    void sameNumber(String call, double got, double due) {
+        if (got != due) {
+            wrong++;
+            System.out.println(call + " answered " + got + ", due is " + due);
+        }
+    }
+
     void end() {
         System.out.println(wrong == 0 ? "all answers are as due" : wrong + " answers are not as due");
         if (wrong != 0) {

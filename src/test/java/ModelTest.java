@@ -1,8 +1,13 @@
-/** Long runs of calls on fresh objects; after every call the answers are compared with those of the model. */
+/**
+ * Long runs of calls on fresh objects, each answer compared with the model's. A run has as many calls as the
+ * document promises, and is the same each time.
+ */
 public final class ModelTest {
     private static final Due due = new Due();
-    private static final int RUNS = 120;
-    private static final int CALLS = 60;
+    private static final int RUNS = 1500;
+    private static final int CALLS = 512;
+    /** The calls that a new text takes: clearText, fault, and an append per character; and run behind it. */
+    private static final int LONGEST_TEXT = 80 + 3;
 
     private static final String[] ACTIONS = {
         "begin", "write", "remove", "keep", "close", "eject", "repair", "damage", "set", "run"};
@@ -10,10 +15,11 @@ public final class ModelTest {
     private static final int[][] WEIGHTS = {
         {6, 14, 2, 4, 5, 2, 2, 3, 3, 3}, {10, 6, 1, 3, 9, 2, 2, 1, 3, 1}, {6, 10, 1, 3, 5, 2, 3, 9, 1, 3}};
 
-    private WriteOnceDisc disc = new WriteOnceDisc();
-    private Model model = new Model();
-    private long seed;
+    private final WriteOnceDisc disc = new WriteOnceDisc();
+    private final Model model = new Model();
     private final int run;
+    private long seed;
+    private int calls;
 
     private ModelTest(int run) {
         this.run = run;
@@ -26,8 +32,25 @@ public final class ModelTest {
         return low + (int) ((seed >>> 33) % (high - low + 1));
     }
 
+    private void countCall() {
+        calls++;
+        if (calls > CALLS) {
+            throw new IllegalStateException("more calls than the document promises");
+        }
+    }
+
     private void same(String call, int got, int want) {
-        due.same("run " + run + ": " + call, got, want);
+        countCall();
+        if (got != want) {
+            due.same("run " + run + ", call " + calls + ": " + call, got, want);
+        }
+    }
+
+    private void sameOf(String method, int a, int b, int got, int want) {
+        countCall();
+        if (got != want) {
+            due.same("run " + run + ", call " + calls + ": " + method + " of " + a + ", " + b, got, want);
+        }
     }
 
     private String action() {
@@ -118,105 +141,113 @@ public final class ModelTest {
         same("fault() of " + text, disc.fault(), model.fault());
     }
 
-    private void compareSessions() {
-        same("sessions()", disc.sessions(), model.sessions());
-        same("valid()", disc.valid(), model.valid());
-        same("next()", disc.next(), model.next());
-        for (int session = -1; session <= model.sessions(); session++) {
-            for (int what = -1; what <= 8; what++) {
-                same("session(" + session + ", " + what + ")", disc.session(session, what), model.session(session, what));
-            }
-            for (int name = -1; name <= 20; name++) {
-                int what = number(-1, 3);
+    /** An argument that is mostly in its range or next to it, at times far out. */
+    private int argument(int least, int greatest) {
+        if (number(0, 60) == 0) {
+            return number(0, 1) == 0 ? Integer.MIN_VALUE : Integer.MAX_VALUE;
+        }
+        return number(0, 8) == 0 ? number(least - 2, greatest + 2) : number(least, greatest);
+    }
+
+    private int sectorArgument() {
+        return number(0, 2) == 0 ? argument(0, 239) : number(0, Math.min(model.next(), 239));
+    }
+
+    private int sessionArgument() {
+        return argument(0, Math.max(model.sessions() - 1, 0));
+    }
+
+    private void ask() {
+        switch (number(0, 4)) {
+            case 0: askAboutSessions(); break;
+            case 1: askAboutSectors(); break;
+            case 2: askAboutFiles(); break;
+            case 3: askAboutRoom(); break;
+            default: askAboutDamage(); break;
+        }
+    }
+
+    private void askAboutSessions() {
+        int session = sessionArgument();
+        int name = argument(0, number(0, 1) == 0 ? 5 : 19);
+        int what = argument(0, number(0, 1) == 0 ? 2 : 7);
+        switch (number(0, 5)) {
+            case 0: same("sessions()", disc.sessions(), model.sessions()); break;
+            case 1: same("next()", disc.next(), model.next()); break;
+            case 2:
+            case 3: sameOf("session", session, what, disc.session(session, what), model.session(session, what)); break;
+            default:
                 String call = "entry(" + session + ", " + name + ", " + what + ")";
                 same(call, disc.entry(session, name, what), model.entry(session, name, what));
-            }
-        }
-        same("setting(0)", disc.setting(0), model.setting(0));
-        same("setting(1)", disc.setting(1), model.setting(1));
-    }
-
-    private void compareSectors() {
-        for (int sector = -1; sector <= 240; sector++) {
-            same("damaged(" + sector + ")", disc.damaged(sector), model.damaged(sector));
-            same("use(" + sector + ")", disc.use(sector), model.use(sector));
-        }
-        for (int i = 0; i < 20; i++) {
-            int sector = number(-1, 240);
-            same("validIf(" + sector + ")", disc.validIf(sector), model.validIf(sector));
-        }
-        same("worstSector()", disc.worstSector(), model.worstSector());
-    }
-
-    private void compareFiles() {
-        for (int name = -1; name <= 20; name++) {
-            same("find(" + name + ")", disc.find(name), model.find(name));
-            same("intact(" + name + ")", disc.intact(name), model.intact(name));
-            same("versions(" + name + ")", disc.versions(name), model.versions(name));
-            same("latestIntact(" + name + ")", disc.latestIntact(name), model.latestIntact(name));
-        }
-        same("intactFiles()", disc.intactFiles(), model.intactFiles());
-        same("lost()", disc.lost(), model.lost());
-        due.sameFloat("run " + run + ": usedWell()", disc.usedWell(), model.usedWell());
-    }
-
-    private void compareRoom() {
-        same("largest()", disc.largest(), model.largest());
-        for (int i = 0; i < 3; i++) {
-            int size = number(0, 41);
-            same("filesLeft(" + size + ")", disc.filesLeft(size), model.filesLeft(size));
-            same("filesEach(" + size + ")", disc.filesEach(size), model.filesEach(size));
+                break;
         }
     }
 
-    /** The questions with arguments that are far out of every range. */
-    private void compareFarOut() {
-        for (int far = Integer.MIN_VALUE; far != 0; far = far < 0 ? Integer.MAX_VALUE : 0) {
-            same("append(far)", disc.append(far), model.append(far));
-            same("session(far, 0)", disc.session(far, 0), model.session(far, 0));
-            same("session(0, far)", disc.session(0, far), model.session(0, far));
-            same("entry(far, 0, 0)", disc.entry(far, 0, 0), model.entry(far, 0, 0));
-            same("entry(0, far, 0)", disc.entry(0, far, 0), model.entry(0, far, 0));
-            same("entry(0, 0, far)", disc.entry(0, 0, far), model.entry(0, 0, far));
-            same("damaged(far)", disc.damaged(far), model.damaged(far));
-            same("use(far)", disc.use(far), model.use(far));
-            same("setting(far)", disc.setting(far), model.setting(far));
-            same("find(far)", disc.find(far), model.find(far));
-            same("intact(far)", disc.intact(far), model.intact(far));
-            same("versions(far)", disc.versions(far), model.versions(far));
-            same("latestIntact(far)", disc.latestIntact(far), model.latestIntact(far));
-            same("filesLeft(far)", disc.filesLeft(far), model.filesLeft(far));
-            same("filesEach(far)", disc.filesEach(far), model.filesEach(far));
-            same("validIf(far)", disc.validIf(far), model.validIf(far));
+    private void askAboutSectors() {
+        int sector = sectorArgument();
+        int setting = argument(0, 1);
+        switch (number(0, 4)) {
+            case 0: sameOf("setting", setting, 0, disc.setting(setting), model.setting(setting)); break;
+            case 1: sameOf("damaged", sector, 0, disc.damaged(sector), model.damaged(sector)); break;
+            default: sameOf("use", sector, 0, disc.use(sector), model.use(sector)); break;
         }
     }
 
-    private void compareAll() {
-        compareFarOut();
-        compareSessions();
-        compareSectors();
-        compareFiles();
-        compareRoom();
+    private void askAboutFiles() {
+        int name = argument(0, number(0, 1) == 0 ? 5 : 19);
+        switch (number(0, 6)) {
+            case 0: sameOf("find", name, 0, disc.find(name), model.find(name)); break;
+            case 1: sameOf("intact", name, 0, disc.intact(name), model.intact(name)); break;
+            case 2: sameOf("versions", name, 0, disc.versions(name), model.versions(name)); break;
+            case 3: sameOf("latestIntact", name, 0, disc.latestIntact(name), model.latestIntact(name)); break;
+            case 4: same("intactFiles()", disc.intactFiles(), model.intactFiles()); break;
+            case 5: same("lost()", disc.lost(), model.lost()); break;
+            default:
+                countCall();
+                due.sameFloat("run " + run + ": usedWell()", disc.usedWell(), model.usedWell());
+                break;
+        }
+    }
+
+    private void askAboutRoom() {
+        int size = argument(1, 40);
+        switch (number(0, 2)) {
+            case 0: same("largest()", disc.largest(), model.largest()); break;
+            case 1: sameOf("filesLeft", size, 0, disc.filesLeft(size), model.filesLeft(size)); break;
+            default: sameOf("filesEach", size, 0, disc.filesEach(size), model.filesEach(size)); break;
+        }
+    }
+
+    private void askAboutDamage() {
+        int sector = sectorArgument();
+        switch (number(0, 3)) {
+            case 0: same("valid()", disc.valid(), model.valid()); break;
+            case 1: same("worstSector()", disc.worstSector(), model.worstSector()); break;
+            default: sameOf("validIf", sector, 0, disc.validIf(sector), model.validIf(sector)); break;
+        }
+    }
+
+    private void act() {
+        if (number(0, 9) == 0) {
+            same("undo()", disc.undo(), model.undo());
+            return;
+        }
+        String action = action();
+        if (action.equals("run") && calls + LONGEST_TEXT < CALLS && number(0, 2) > 0) {
+            newText();
+        }
+        int a = firstArgument(action);
+        int b = secondArgument(action);
+        sameOf(action, a, b, callAction(action, a, b), model.act(action, a, b));
     }
 
     private void play() {
-        for (int call = 0; call < CALLS; call++) {
-            if (number(0, 11) == 0) {
-                same("undo()", disc.undo(), model.undo());
-            } else {
-                String action = action();
-                if (action.equals("run")) {
-                    newText();
-                }
-                int a = firstArgument(action);
-                int b = secondArgument(action);
-                same(action + "(" + a + ", " + b + ")", callAction(action, a, b), model.act(action, a, b));
+        int asked = run % 3 == 0 ? 3 : 8;
+        while (calls < CALLS) {
+            act();
+            for (int turn = 0; turn < asked && calls < CALLS; turn++) {
+                ask();
             }
-            compareAll();
-        }
-        for (int left = 0; left < 5; left++) {
-            same("undo()", disc.undo(), model.undo());
-            compareAll();
         }
     }
 
