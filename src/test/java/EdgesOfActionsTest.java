@@ -304,6 +304,18 @@ public final class EdgesOfActionsTest {
         edge.answers(before + "keep(1, 0)", "session(1, 5)", 1);
         edge.answers(before + "keep(1, 0) remove(1)", "session(1, 5)", 0);
         edge.answers(before + "keep(1, 0)", "keep(1, 0)", 4);
+        edge.answers(fullTable() + "close() begin(1) keep(19, 0)", "session(1, 5)", 20);
+        edge.answers(fullTable() + "close() begin(1) write(19, 2) keep(19, 0)", "entry(1, 19, 0)", 23);
+    }
+
+    private static void keepTakesNoRoom() {
+        edge.sentence("5: an entry is only a reference, so a disc without room takes it too");
+        String before = Edge.closedWithRoom(7) + "begin(0) ";
+        edge.answers(before, "keep(0, 0)", 204);
+        edge.answers(before + "keep(0, 0)", "next()", 237);
+        edge.answers(before + "keep(0, 0)", "remove(0)", 0);
+        edge.answers(before + "keep(0, 0)", "close()", 240);
+        edge.answers(before + "keep(0, 0) close()", "find(0)", 204);
     }
 
     private static void keepWithoutAnOpenSession() {
@@ -369,6 +381,8 @@ public final class EdgesOfActionsTest {
             edge.answers(before, "eject()", 0);
             edge.sameState(before, before + "eject()");
         }
+        edge.answers(Edge.closedWithRoom(0), "eject()", 0);
+        edge.answers("begin(0) close() ".repeat(12), "eject()", 0);
     }
 
     // ---- 8: repair
@@ -528,6 +542,7 @@ public final class EdgesOfActionsTest {
         keepSessions();
         keepPutsTheEntry();
         keepReplacesAnEntry();
+        keepTakesNoRoom();
         keepWithoutAnOpenSession();
         keepFromAnUnreadableSession();
         keepWithoutAnEntry();

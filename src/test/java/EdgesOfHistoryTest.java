@@ -217,6 +217,12 @@ public final class EdgesOfHistoryTest {
         edge.sameState("begin(0) close() begin(0)",
             "begin(0) close() begin(1) write(3, 2) undo() undo() begin(0)");
         edge.sameState("set(0, 9) begin(0)", "begin(0) undo() set(0, 9) begin(0)");
+        edge.sameState("begin(0)", "text(b0;w0=5;w19=1) run() undo() begin(0)");
+        edge.sameState("begin(1)", "text(b0;w0=5;w19=1) run() undo() begin(1)");
+        String two = "begin(0) write(0, 5) write(19, 5) close() ";
+        edge.sameState(two + "begin(0)", two + "begin(1) undo() begin(0)");
+        edge.sameState(two + "begin(0)", two + "text(b1;w1=1;c;b1) run() undo() begin(0)");
+        edge.sameState(two + "set(1, 9) begin(0) close()", two + "text(b1;c) run() undo() set(1, 9) begin(0) close()");
     }
 
     // ---- calls

@@ -145,7 +145,16 @@ public final class EdgesOfRoomTest {
             edge.answers(Edge.openWithRoom(7 + 2 * size), "filesEach(" + size + ")", 2);
             edge.answers(Edge.openWithRoom(7 + 2 * size - 1), "filesEach(" + size + ")", 1);
         }
-        edge.answers(Edge.openWithRoom(39) + LEAST, "filesEach(40)", 0);
+    }
+
+    private static void filesEachThatEjectingWouldLetFit() {
+        edge.sentence("33: the first one in this session, even where an ejected disc would have room for one");
+        String before = "set(1, 9) begin(0)" + Edge.fill(188) + LEAST;
+        edge.answers(before, "largest()", 39);
+        edge.answers(before, "filesEach(39)", 1);
+        edge.answers(before, "filesEach(40)", 0);
+        edge.answers(before, "filesLeft(40)", 0);
+        edge.answers(before + "eject()", "filesEach(40)", 1);
     }
 
     private static void filesEachWithTheSettingsOfNow() {
@@ -261,6 +270,17 @@ public final class EdgesOfRoomTest {
             "worstSector()", 13);
     }
 
+    private static void worstSectorOfEachName() {
+        edge.sentence("35: a file's sector, whatever its name is");
+        for (int name = 0; name <= 19; name++) {
+            int other = (name + 7) % 20;
+            String before = "begin(0) write(" + name + ", 1) close() begin(1) write(" + other + ", 1) close() ";
+            edge.answers(before, "worstSector()", 4);
+            edge.answers(before + "damage(4)", "worstSector()", 8);
+            edge.answers(before + "begin(0) keep(" + name + ", 0) close() damage(12)", "worstSector()", 4);
+        }
+    }
+
     private static void worstSectorPassesDamagedFiles() {
         edge.sentence("35: files that can be found and are intact");
         String two = "begin(0) write(1, 2) write(2, 2) close() begin(1) write(3, 1) close() ";
@@ -298,6 +318,7 @@ public final class EdgesOfRoomTest {
         filesEachSizes();
         filesEachInNewSessions();
         filesEachInTheOpenSession();
+        filesEachThatEjectingWouldLetFit();
         filesEachWithTheSettingsOfNow();
         filesEachWithFewSessions();
         filesEachOfNothing();
@@ -308,6 +329,7 @@ public final class EdgesOfRoomTest {
         worstSectorWithoutFiles();
         worstSectorIsALeadIns();
         worstSectorIsAFiles();
+        worstSectorOfEachName();
         worstSectorPassesDamagedFiles();
         worstSectorThatLeavesMore();
         worstSectorAtTheEnd();
