@@ -443,11 +443,11 @@ public final class WriteOnceDisc {
                 return NOT_POSSIBLE;
             }
             int leads = settings[LEAD_IN] + settings[LEAD_OUT];
-            if (begun >= SESSIONS || nextSector + leads > SECTORS) {
+            Session fresh = freshSession();
+            if (fresh == null || nextSector + leads > SECTORS) {
                 return TOO_MANY;
             }
             Session valid = sessionAt(validNumberIf(NO_SECTOR));
-            Session fresh = sessions[begun];
             fresh.startAt(nextSector, settings[LEAD_IN], settings[LEAD_OUT]);
             if (mode == COPIED_TABLE && valid != null) {
                 fresh.copyTable(valid);
@@ -571,6 +571,11 @@ public final class WriteOnceDisc {
 
         Session sessionAt(int number) {
             return number >= 0 && number < begun && number < SESSIONS ? sessions[number] : null;
+        }
+
+        /** The session that begin takes next; null if all have been begun. */
+        private Session freshSession() {
+            return begun >= 0 && begun < SESSIONS ? sessions[begun] : null;
         }
 
         Session openSession() {
@@ -750,7 +755,7 @@ public final class WriteOnceDisc {
         }
 
         private Disc slotBehindHeld() {
-            return slots[(oldest + held) % HISTORY_SLOTS];
+            return slots[Math.floorMod(oldest + held, HISTORY_SLOTS)];
         }
 
         void sketch(Disc now) {
@@ -785,7 +790,7 @@ public final class WriteOnceDisc {
         int secondNumber;
 
         boolean addSign(char sign) {
-            if (length >= TEXT_ROOM) {
+            if (length < 0 || length >= TEXT_ROOM) {
                 return false;
             }
             signs[length] = sign;
